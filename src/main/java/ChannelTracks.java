@@ -109,7 +109,7 @@ public final class ChannelTracks {
             case CLEAR: answer = clear(); break;
             case CUT: answer = cut(sign - 'a', true); break;
             case WHOLE: answer = cut(sign - 'a', false); break;
-            default: answer = turn(sign - '0'); break;
+            case TURN: default: answer = turn(sign - '0'); break;
         }
         if (!isError(answer)) {
             text.length = 0;
@@ -575,7 +575,7 @@ public final class ChannelTracks {
                 case CLEAR: return "clear";
                 case CUT: return "cut ?";
                 case WHOLE: return "whole ?";
-                default: return "turn #";
+                case TURN: default: return "turn #";
             }
         }
 

@@ -72,6 +72,10 @@ public final class ChannelTest {
         x.set(1, 2);
         CHECK.is("wrong way round: valid", x.about(8), 0);
         CHECK.is("wrong way round: conflicts", x.about(9), 2);
+        x = Check.channel("ab/ba");
+        x.set(0, 0);
+        x.set(1, 0);
+        CHECK.is("all of two columns: conflicts", x.about(9), 4);
     }
 
     private static void aboutNothing() {
@@ -130,6 +134,9 @@ public final class ChannelTest {
         for (int what = 0; what <= 4; what++) {
             CHECK.is("net(1, " + what + ")", x.net(1, what), one[what]);
         }
+        x.put(0, 1, 5);
+        CHECK.is("net(5, 1)", x.net(5, 1), 0);
+        CHECK.is("net(5, 2)", x.net(5, 2), 0);
         CHECK.is("net(0, 5)", x.net(0, 5), OUTSIDE);
         CHECK.is("net(0, -1)", x.net(0, -1), OUTSIDE);
         CHECK.is("net(2, 0)", x.net(2, 0), UNKNOWN);
@@ -213,6 +220,9 @@ public final class ChannelTest {
         CHECK.is("may(0, 3)", x.may(0, 3), UNKNOWN);
         CHECK.is("may(-1, 0)", x.may(-1, 0), UNKNOWN);
         CHECK.is("may(0, -1)", x.may(0, -1), UNKNOWN);
+        x = Check.channel("bba./.acc");
+        CHECK.is("may(1, 2), with a between them", x.may(1, 2), 0);
+        CHECK.is("may(2, 1), with a between them", x.may(2, 1), 0);
         x = Check.channel("aabb/....");
         CHECK.is("may(0, 1), apart", x.may(0, 1), 1);
         x = Check.channel("aab.b/..b..");

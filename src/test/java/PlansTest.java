@@ -105,6 +105,8 @@ public final class PlansTest {
         best("bbaa/....", 1, "0 0");
         // d may lie on any of three tracks.
         best("abc.dd/.abc..", 3, "2 1 0 0");
+        // Density and chain are 3, but a and b overlap, and both lie between c and d.
+        best("bacc/ddab", 4, "1 2 0 3");
         best("ab/ab", 0, "");
     }
 

@@ -1,4 +1,4 @@
-/** All channels of a few columns and nets, whole and split, packed and best, by their digests. */
+/** All channels of a few columns and nets, and some of the largest, by their digests. */
 public final class SmallChannelsTest {
     private static final Check CHECK = new Check("SmallChannelsTest");
 
@@ -6,6 +6,12 @@ public final class SmallChannelsTest {
         all(2, 6);
         all(3, 3);
         all(4, 2);
+        // The most segments and the longest plans, with and without cycles.
+        compare("aaaaaaaa/bbbbbbbb", 3);
+        compare("abababab/babababa", 3);
+        compare("aabbccdd/bbccddaa", 15);
+        compare("abcdefab/fedcbafe", 63);
+        compare("aabbaacc/bbccbbdd", 15);
         CHECK.finish();
     }
 
@@ -43,7 +49,13 @@ public final class SmallChannelsTest {
                 CHECK.is(text + ": cut()", x.cut(net, true), due.cut(net, true));
             }
         }
-        CHECK.is(text + ", split " + splits + ": best()", x.best(), due.best());
-        CHECK.is(text + ", split " + splits + ": digest()", x.digest(), due.digest());
+        String name = text + ", split " + splits;
+        CHECK.is(name + ": best()", x.best(), due.best());
+        CHECK.is(name + ": digest()", x.digest(), due.digest());
+        CHECK.is(name + ": pack()", x.pack(), due.pack());
+        for (int segment = 0; segment < x.count(4); segment += 3) {
+            CHECK.is(name + ": set()", x.set(segment, segment), due.set(segment, segment));
+        }
+        CHECK.is(name + ": digest() after set()", x.digest(), due.digest());
     }
 }
