@@ -15,10 +15,12 @@ public final class BoundaryChangesTest {
         putUnknownBeforeOutside();
         putPrevious();
         putFirstAndLastPins();
+        putKeepsSplit();
         turnColumns();
         turnWithoutChannel();
         turnNone();
         turnOfOneNet();
+        changesKeepText();
         cutNets();
         cutWithoutChannel();
         cutOfNetThatDoesNotExist();
@@ -118,6 +120,24 @@ public final class BoundaryChangesTest {
         CHECK.is("count(1)", x.count(1), 0);
     }
 
+    private static void putKeepsSplit() {
+        CHECK.sentence("16: Changes the net of a pin (and no net becomes whole, also if it loses its last pin)");
+        ChannelTracks x = Check.channel("aaa/...");
+        x.cut(0, true);
+        for (int column = 0; column < 3; column++) {
+            x.put(column, 0, NONE);
+        }
+        CHECK.is("count(2) without pins", x.count(2), 0);
+        CHECK.is("count(3) without pins", x.count(3), 1);
+        for (int column = 0; column < 3; column++) {
+            x.put(column, 1, 0);
+        }
+        CHECK.is("net(0, 3) when it is back", x.net(0, 3), 1);
+        CHECK.is("net(0, 4) when it is back", x.net(0, 4), 2);
+        x.turn(1);
+        CHECK.is("net(0, 3) after turn()", x.net(0, 3), 1);
+    }
+
     private static void turnColumns() {
         CHECK.sentence("17: column: the column; or UNKNOWN");
         ChannelTracks x = busy();
@@ -152,6 +172,15 @@ public final class BoundaryChangesTest {
         CHECK.is("turn(0)", x.turn(0), 5);
         CHECK.is("pin(0, 0)", x.pin(0, 0), 5);
         CHECK.is("pin(0, 1)", x.pin(0, 1), 5);
+    }
+
+    private static void changesKeepText() {
+        CHECK.sentence("16 to 18: what put(), turn() and cut() do (nothing to the text buffer)");
+        ChannelTracks x = busy();
+        x.put(0, 0, 5);
+        x.turn(1);
+        x.cut(0, true);
+        CHECK.is("blank()", x.blank(), 3);
     }
 
     private static void cutNets() {

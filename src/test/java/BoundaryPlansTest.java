@@ -15,6 +15,7 @@ public final class BoundaryPlansTest {
         setPrevious();
         clearCounts();
         clearWithoutChannel();
+        plansKeepText();
         packWithoutChannel();
         packWithCycle();
         packAfterCycle();
@@ -141,6 +142,18 @@ public final class BoundaryPlansTest {
         CHECK.sentence("20: or STATE if there is no channel");
         CHECK.refused(ChannelTracks::new, "clear()", x -> x.clear(), STATE);
         CHECK.refused(() -> Check.typed("ab/ba"), "clear()", x -> x.clear(), STATE);
+    }
+
+    private static void plansKeepText() {
+        CHECK.sentence("19 to 22: what set(), clear(), pack() and best() do (nothing to the text buffer)");
+        ChannelTracks x = busy();
+        x.set(0, 0);
+        x.clear();
+        x.pack();
+        x.best();
+        CHECK.is("count(6)", x.count(6), 3);
+        x.letter('k');
+        CHECK.is("say() of the text that was left", x.say(), 3);
     }
 
     private static void packWithoutChannel() {
@@ -382,6 +395,8 @@ public final class BoundaryPlansTest {
         best("aabb/....", 1, "0 0");
         best("abcdef./.abcdef", 6, "5 4 3 2 1 0");
         best("abc.cba/def.fed", 6, "0 1 2 3 4 5");
+        // With a third track a could be on track 0.
+        best("baab./...dd", 2, "1 0 1");
         // pack() needs 3 tracks here.
         best("dcdac/....a", 2, "1 0 1");
         // More than the density and the chain, which are 3.

@@ -401,6 +401,7 @@ public final class BoundaryTextsTest {
         ChannelTracks x = Check.channel("ab/ab");
         CHECK.is("pack", Check.say(x, "pack"), 0);
         CHECK.is("count(6) after pack", x.count(6), 0);
+        CHECK.is("count(8) after pack", x.count(8), 0);
         CHECK.is("best", Check.say(x, "best"), 0);
         CHECK.is("count(6) after best", x.count(6), 0);
         CHECK.is("clear", Check.say(x, "clear"), 0);
