@@ -28,6 +28,7 @@ public final class BoundaryModelTest {
         validNeedsAllTracks();
         validNeedsNoOverlap();
         validNeedsOrder();
+        validNeedsOrderOnAllTracks();
         horizontalNets();
         verticalOfTopPin();
         verticalOfBottomPin();
@@ -35,7 +36,9 @@ public final class BoundaryModelTest {
         verticalOfOneNet();
         conflictsOfHorizontalNets();
         conflictsOfVerticalNets();
+        planOfMostSegments();
         densities();
+        crossingSetsOfPieces();
         zonesNotEmpty();
         zonesNoProperSubset();
         zonesEachOnce();
@@ -45,6 +48,7 @@ public final class BoundaryModelTest {
         cycleBeginsLowest();
         cycleSmallest();
         cycleOfPieces();
+        cycleOfMostSegments();
         levelsOfLongest();
         chainWithoutSegments();
         noLevelsWithCycle();
@@ -392,6 +396,17 @@ public final class BoundaryModelTest {
         valid("ab/ba", 0, 1, 0);
     }
 
+    private static void validNeedsOrderOnAllTracks() {
+        CHECK.sentence("A plan gives each segment a track, 0 to 13 (0 is the uppermost one)");
+        for (int one = 0; one <= 13; one++) {
+            for (int other = 0; other <= 13; other++) {
+                valid("aa/bb", one < other ? 1 : 0, one, other);
+                valid("bb/aa", one > other ? 1 : 0, one, other);
+                valid("ab../..ab", one != other ? 1 : 0, one, other);
+            }
+        }
+    }
+
     private static void row(ChannelTracks x, int track, int layer, int... wants) {
         for (int column = 0; column < wants.length; column++) {
             String call = "cell(" + track + ", " + column + ", " + layer + ")";
@@ -489,6 +504,24 @@ public final class BoundaryModelTest {
         CHECK.is("with a track between", x.about(9), 6);
     }
 
+    private static void planOfMostSegments() {
+        CHECK.sentence("the horizontal nets are .. The vertical nets are .. (with all 14 segments on tracks)");
+        ChannelTracks x = split("aaaaaaaa/bbbbbbbb", "ab");
+        tracks(x, 0, 0, 0, 0, 0, 0, 0, 1, 1, 1, 1, 1, 1, 1);
+        row(x, 0, 0, 0, 0, 0, 0, 0, 0, 0, 0);
+        row(x, 1, 0, 1, 1, 1, 1, 1, 1, 1, 1);
+        row(x, 0, 1, 0, 0, 0, 0, 0, 0, 0, 0);
+        row(x, 1, 1, 1, 1, 1, 1, 1, 1, 1, 1);
+        CHECK.is("in order: about(8)", x.about(8), 1);
+        CHECK.is("in order: about(9)", x.about(9), 0);
+        tracks(x, 1, 1, 1, 1, 1, 1, 1, 0, 0, 0, 0, 0, 0, 0);
+        CHECK.is("the wrong way round: about(8)", x.about(8), 0);
+        CHECK.is("the wrong way round: about(9)", x.about(9), 16);
+        tracks(x, 0, 1, 2, 3, 4, 5, 6, 7, 8, 9, 10, 11, 12, 13);
+        CHECK.is("a track for each: about(7)", x.about(7), 14);
+        CHECK.is("a track for each: about(8)", x.about(8), 1);
+    }
+
     private static void densities() {
         CHECK.sentence("The density is the greatest number of nets in a crossing set");
         CHECK.is("no pins", Check.channel("../..").about(2), 0);
@@ -499,8 +532,21 @@ public final class BoundaryModelTest {
         CHECK.is("two pieces of one net", split("aaa/...", "a").about(2), 1);
     }
 
+    private static void crossingSetsOfPieces() {
+        CHECK.sentence("The crossing set of a column is the set of nets of the segments that cover it");
+        // At each column of b two pieces of a meet.
+        zones(split("aaaa/.bb.", "a"), "aaaa/.bb., a split", 3);
+        CHECK.is("density", split("aaaa/.bb.", "a").about(2), 2);
+        zones(split("aaabbb/.....b", "ab"), "aaabbb/.....b, both split", 1, 2);
+        zones(split("aaaaaaaa/bbbbbbbb", "ab"), "the most segments", 3);
+        CHECK.is("density of the most segments", split("aaaaaaaa/bbbbbbbb", "ab").about(2), 2);
+    }
+
     private static void zones(String channel, int... wants) {
-        ChannelTracks x = Check.channel(channel);
+        zones(Check.channel(channel), channel, wants);
+    }
+
+    private static void zones(ChannelTracks x, String channel, int... wants) {
         CHECK.is(channel + ": about(6)", x.about(6), wants.length);
         for (int zone = 0; zone < wants.length; zone++) {
             CHECK.is(channel + ": zone(" + zone + ")", x.zone(zone), wants[zone]);
@@ -600,6 +646,13 @@ public final class BoundaryModelTest {
         for (int place = 0; place < length; place++) {
             CHECK.is("step " + place, x.above(x.ring(place), x.ring((place + 1) % length)), 1);
         }
+    }
+
+    private static void cycleOfMostSegments() {
+        CHECK.sentence("The cycle is the shortest sequence of different segments (of 14)");
+        ring(split("abababab/babababa", "ab"), "the first pieces", 0, 7);
+        ring(split("aaaaaaab/bbbbbbba", "ab"), "the last pieces", 6, 13);
+        ring(split("aaaaaaaa/bbbbbbbb", "ab"), "none");
     }
 
     private static void levelsOfLongest() {

@@ -25,6 +25,7 @@ public final class BoundaryPlansTest {
         packBelowSmallerTracks();
         packFromTheLeft();
         packOfMostSegments();
+        packAfterMoreSegments();
         bestWithoutChannel();
         bestWithCycle();
         bestOfEightSegments();
@@ -244,6 +245,26 @@ public final class BoundaryPlansTest {
         tracksAre(x, "14 segments", "0 0 0 0 0 0 0 1 1 1 1 1 1 1");
         x = Check.channel("abcdef../.abcdeff");
         CHECK.is("pack() of a chain of six", x.pack(), 6);
+    }
+
+    private static void packAfterMoreSegments() {
+        CHECK.sentence("21: of all segments without a track .. (those that there were before are none)");
+        ChannelTracks x = Check.channel("bbbbbbbb/aaaaaaaa");
+        x.cut(0, true);
+        x.cut(1, true);
+        CHECK.is("pack() of 14", x.pack(), 2);
+        x.cut(0, false);
+        x.cut(1, false);
+        CHECK.is("pack() of 2 then", x.pack(), 2);
+        tracksAre(x, "2 segments", "1 0");
+        CHECK.is("best() of 2 then", x.best(), 2);
+        tracksAre(x, "2 segments", "1 0");
+        x.cut(0, true);
+        x.cut(1, true);
+        Check.type(x, "bbaa/....");
+        x.channel();
+        CHECK.is("pack() of another channel", x.pack(), 1);
+        tracksAre(x, "another channel", "0 0");
     }
 
     private static void bestWithoutChannel() {

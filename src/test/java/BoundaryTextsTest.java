@@ -35,6 +35,7 @@ public final class BoundaryTextsTest {
         channelColumns();
         channelSigns();
         channelOfOtherTexts();
+        channelWithoutSlashInTheMiddle();
         channelEmptiesText();
         channelReplaces();
         channelMakesWhole();
@@ -316,6 +317,15 @@ public final class BoundaryTextsTest {
         for (String text : texts) {
             CHECK.refused(busy(text), "channel() of '" + text + "'", x -> x.channel(), STATE);
             CHECK.refused(() -> Check.typed(text), "channel() of '" + text + "' at first", x -> x.channel(), STATE);
+        }
+    }
+
+    private static void channelWithoutSlashInTheMiddle() {
+        CHECK.sentence("5: exactly the text of a channel (a slash, and as many characters before as behind it)");
+        // Each of them is as long as a channel's text, and only begins one.
+        for (String text : new String[] {".....", "ab.cd", "ab./a", "abc/d", "abc./ab", "abcde/f", "abcdefa/b"}) {
+            CHECK.is("fault(0) of " + text, Check.typed(text).fault(0), text.length());
+            CHECK.refused(busy(text), "channel() of " + text, x -> x.channel(), STATE);
         }
     }
 
