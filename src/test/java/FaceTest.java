@@ -30,7 +30,7 @@ public final class FaceTest {
         for (Class<?> one : classes()) {
             size(one);
         }
-        if (args.length == 1) {
+        if (args.length > 0) {
             source(Files.readString(Path.of(args[0])));
         }
         CHECK.finish();
